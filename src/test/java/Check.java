@@ -1,0 +1,78 @@
+import java.util.Arrays;
+
+/** Counts what a test finds, and speaks with a node in whole messages. */
+final class Check {
+    private int done;
+    private int wrong;
+
+    void due(String what, long got, long want) {
+        done++;
+        if (got != want) {
+            wrong++;
+            System.out.println(what + " answered " + got + ", due is " + want);
+        }
+    }
+
+    void due(String what, byte[] got, byte[] want) {
+        done++;
+        if (!Arrays.equals(got, want)) {
+            wrong++;
+            System.out.println(what + " answered\n  " + Wire.show(got) + ", due is\n  " + Wire.show(want));
+        }
+    }
+
+    void end(String test) {
+        System.out.println(test + ": " + done + " checks, " + wrong + " wrong");
+        if (wrong != 0 || done == 0) {
+            System.exit(1);
+        }
+    }
+
+    /** All of them are fed, even if the connection is closed in the meantime: how many messages were done. */
+    static int feed(QuotaPeers node, int connection, byte[] octets) {
+        int messages = 0;
+        for (int from = 0; from < octets.length; from += 32) {
+            int n = Math.min(32, octets.length - from);
+            long[] parts = new long[4];
+            for (int i = 0; i < n; i++) {
+                parts[i / 8] |= (octets[from + i] & 255L) << (56 - 8 * (i % 8));
+            }
+            messages += Math.max(0, node.feed(connection, parts[0], parts[1], parts[2], parts[3], n));
+        }
+        return messages;
+    }
+
+    /** The next whole message that waits, or as many octets as there are. */
+    static byte[] take(QuotaPeers node, int connection) {
+        byte[] octets = new byte[Math.max(0, node.waiting(connection))];
+        int length = octets.length;
+        int i = 0;
+        while (i < length) {
+            octets[i] = (byte) node.take(connection);
+            i++;
+            if (i == 4) {
+                length = Math.min(octets.length, (octets[1] & 255) << 16 | (octets[2] & 255) << 8 | octets[3] & 255);
+            }
+        }
+        return Arrays.copyOf(octets, length);
+    }
+
+    static void drain(QuotaPeers node, int connection) {
+        while (node.waiting(connection) > 0) {
+            node.take(connection);
+        }
+    }
+
+    static int sign(QuotaPeers node, String name) {
+        int count = node.sign(-1);
+        for (int i = 0; i < name.length(); i++) {
+            count = node.sign(name.charAt(i));
+        }
+        return count;
+    }
+
+    static int peer(QuotaPeers node, String name, boolean starts) {
+        sign(node, name);
+        return node.peer(starts);
+    }
+}
