@@ -8,16 +8,22 @@ final class Check {
     void due(String what, long got, long want) {
         done++;
         if (got != want) {
-            wrong++;
-            System.out.println(what + " answered " + got + ", due is " + want);
+            tell(what + " answered " + got + ", due is " + want);
         }
     }
 
     void due(String what, byte[] got, byte[] want) {
         done++;
         if (!Arrays.equals(got, want)) {
-            wrong++;
-            System.out.println(what + " answered\n  " + Wire.show(got) + ", due is\n  " + Wire.show(want));
+            tell(what + " answered\n  " + Wire.show(got) + ", due is\n  " + Wire.show(want));
+        }
+    }
+
+    /** The first few tell enough. */
+    private void tell(String text) {
+        wrong++;
+        if (wrong <= 20) {
+            System.out.println(text);
         }
     }
 
