@@ -125,11 +125,9 @@ public final class QuotaPeers {
     private static final int ACCOUNT_UNKNOWN = 5030;
 
     private static final int BEGINS = 1;
-    private static final int GOES_ON = 2;
     private static final int ENDS = 3;
     private static final int ONCE = 4;
     private static final int CHARGE = 0;
-    private static final int GIVE_BACK = 1;
     private static final int LOOK = 2;
 
     private static final int LINE_CLOSED = 0;
@@ -1831,6 +1829,7 @@ public final class QuotaPeers {
                 account.charge(units);
                 return DONE;
             }
+            // The third one, 1, gives back.
             if (account.balance + units > UNITS_MOST) {
                 return UNABLE;
             }

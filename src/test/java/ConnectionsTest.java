@@ -102,7 +102,10 @@ public final class ConnectionsTest {
         check.due("one asked for is gone", x.gone(1), 1);
         check.due("as if refused", x.state(1, 0), 0);
         x.accept();
+        x.feed(1, 0x01000014L << 32, 0, 0, 0, 7);
+        check.due("octets of a message", x.connection(1, 3), 7);
         check.due("a strange one is gone", x.gone(1), 1);
+        check.due("no message is there", x.connection(1, 3), 0);
         check.due("again", x.gone(1), -1);
         x.accept();
         Check.feed(x, 1, Wire.opening("a.b", 1, 1));

@@ -158,6 +158,9 @@ public final class CreditTest {
         refused("b", 1, 0, 5030, who("120 "));
         refused("b", 1, 0, 5030, who("/20"));
         refused("b", 1, 0, 5030, who("12:"));
+        // Taken as digits of 10 and -10 these would tell 120.
+        refused("b", 1, 0, 5030, who("11:"));
+        refused("b", 1, 0, 5030, who("13&"));
         refused("b", 1, 0, 5030, who("0"));
         refused("b", 1, 0, 5030, who("12"));
         refused("b", 1, 0, 5030, who("1200"));
@@ -342,6 +345,16 @@ public final class CreditTest {
         check.due("the last, and a timer", node.tick(620), 2);
         account(120, 5000, 0, 0);
         check.due("none", node.sessions(), 0);
+        // One that was made later ends before one that went on.
+        open();
+        credit("a", 1, 0, 2001, Wire.told(1000), who("120"));
+        credit("b", 1, 0, 2001, Wire.told(500), who("120"), Wire.wanted(500));
+        node.tick(1);
+        credit("a", 2, 1, 2001, Wire.told(1000));
+        node.tick(600);
+        check.due("one is left", node.sessions(), 1);
+        check.due("it is a", node.granted(0), 1000);
+        check.due("it ends", node.tick(601), 1 + 1);
     }
 
     private static void manySessions() {
@@ -431,6 +444,15 @@ public final class CreditTest {
         check.due("at 265", node.kept(), 1);
         node.tick(480);
         check.due("at 480", node.kept(), 0);
+        // Also when nothing is asked in between.
+        open();
+        Check.feed(node, 1, first);
+        for (int t = 20; t <= 240; t += 20) {
+            node.tick(t);
+            Check.feed(node, 1, Wire.watch("a.b", 1));
+        }
+        Check.feed(node, 1, first);
+        check.due("charged twice", node.balance(120, 2), 20);
     }
 
     private static void keptByNumber() {

@@ -167,6 +167,15 @@ public final class PeersTest {
         state(x, "refused", 5, 0, 2);
         check.due("answered", Check.take(x, 2), openAnswer(2));
 
+        QuotaPeers w = withPeer(EARLY);
+        w.start(1);
+        w.accept();
+        Check.feed(w, 2, Wire.message(1, Wire.REQUEST | Wire.PASSED | Wire.AGAIN, Wire.OPENING, 0, 5, 6,
+                Wire.origin(EARLY, "r"), Wire.number(258, 4)));
+        w.gone(1);
+        check.due("answered, passed as it was", Check.take(w, 2),
+                Wire.answer(Wire.PASSED, Wire.OPENING, 5, 6, 2001, Wire.introduction()));
+
         QuotaPeers y = withPeer(EARLY);
         y.start(1);
         accept(y, EARLY);

@@ -48,6 +48,11 @@ public final class WatchTest {
     }
 
     private static void good() {
+        QuotaPeers late = new QuotaPeers();
+        Check.peer(late, "a.b", false);
+        late.tick(7);
+        come(late);
+        status(late, "new to good at 7", 1, 0, 37);
         QuotaPeers x = open();
         status(x, "new to good", 1, 0, 30);
         x.tick(10);
