@@ -29,7 +29,73 @@ public final class FuzzTest {
                 one.mustHold("seed " + seed + " call " + call + " " + text, before);
             }
         }
+        for (int seed = 0; seed < 300; seed++) {
+            FuzzTest one = new FuzzTest(seed);
+            for (int call = 0; call < 2000; call++) {
+                one.wild();
+            }
+            check.due("the clock of seed " + seed, one.node.clock() >= 0 ? 0 : 1, 0);
+        }
         check.end("FuzzTest");
+    }
+
+    /** Any number, often one that means something. */
+    private int any() {
+        return random.nextInt(3) > 0 ? random.nextInt(11) - 1 : random.nextInt() >> random.nextInt(32);
+    }
+
+    private long anyLong() {
+        return random.nextInt(3) == 0 ? any() : random.nextLong() >> random.nextInt(64);
+    }
+
+    /** Any call with any arguments: whatever it answers, it must answer. */
+    private void wild() {
+        switch (random.nextInt(28)) {
+            case 0: node.sign(random.nextBoolean() ? any() : 0x61 + random.nextInt(26)); break;
+            case 1: node.own(); break;
+            case 2: node.peer(random.nextBoolean()); break;
+            case 3: node.start(any()); break;
+            case 4: node.accept(); break;
+            case 5: node.connected(any(), random.nextBoolean()); break;
+            case 6: node.gone(any()); break;
+            case 7: node.stop(any(), any()); break;
+            case 8: node.tick(random.nextBoolean() ? any() : node.clock() + random.nextInt(2002)); break;
+            case 9: node.take(any()); break;
+            case 10: node.waiting(any()); break;
+            case 11: node.connection(any(), any()); break;
+            case 12: node.state(any(), any()); break;
+            case 13: node.account(anyLong(), anyLong()); break;
+            case 14: node.balance(anyLong(), any()); break;
+            case 15: node.session(any(), any()); break;
+            case 16: node.granted(any()); break;
+            case 17: node.ask(any()); break;
+            case 18: node.asked(any(), any()); break;
+            case 19: node.kept(); break;
+            case 20: node.lost(); break;
+            case 21: node.feed(any(), anyLong(), anyLong(), anyLong(), anyLong(), any()); break;
+            default: Check.feed(node, 1 + random.nextInt(8), noise()); break;
+        }
+    }
+
+    /** A message whose attributes are drawn: codes that are known, groups, lengths that may be wrong. */
+    private byte[] noise() {
+        int[] codes = {263, 264, 296, 283, 293, 269, 444, 268, 258, 266, 278, 273, 285, 416, 415, 436, 450, 448, 422, 421,
+                257, 443, 437, 431, 446, 279, 9999};
+        byte[] body = Wire.join(Wire.text(263, "s"), Wire.origin("a", "b"), Wire.number(258, 4), Wire.number(416, 1));
+        for (int i = random.nextInt(12); i > 0 && body.length < 500; i--) {
+            int size = random.nextInt(4) == 0 ? random.nextInt(45) : random.nextBoolean() ? 4 : 8;
+            int length = 8 + size + (random.nextInt(20) == 0 ? random.nextInt(9) - 4 : 0);
+            byte[] data = new byte[size];
+            random.nextBytes(data);
+            int flags = random.nextInt(10) == 0 ? random.nextInt(256) : 64;
+            body = Wire.join(body, Wire.attribute(codes[random.nextInt(codes.length)], flags, length, data, 9));
+            if (random.nextInt(4) == 0) {
+                body = Wire.group(codes[21 + random.nextInt(5)], body);
+            }
+        }
+        int command = new int[] {257, 280, 282, 272, 258}[random.nextInt(5)];
+        return Wire.message(1, random.nextBoolean() ? 128 : random.nextInt(256), command, command == 272 ? 4 : 0,
+                random.nextInt(50), random.nextInt(50), body);
     }
 
     private void prepare() {
