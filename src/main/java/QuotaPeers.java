@@ -948,7 +948,7 @@ public final class QuotaPeers {
     private void onCredit(Peer p, Connection line) {
         KeptAnswer before = keptAnswerOfMessage();
         if (before != null) {
-            before.setRequest(message.hop(), message.flags() & PASSED);
+            before.setHop(message.hop());
             line.send(before.words, before.words.length);
             return;
         }
@@ -1605,9 +1605,9 @@ public final class QuotaPeers {
             this.words = words;
         }
 
-        void setRequest(int hop, int passed) {
-            if (words.length >= 5) {
-                words[1] = words[1] & ~(PASSED << 24) | passed << 24;
+        /** Only the HOP is of the CREDIT that came again: all else is as it was answered at first. */
+        void setHop(int hop) {
+            if (words.length >= 4) {
                 words[3] = hop;
             }
         }

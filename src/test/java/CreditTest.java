@@ -23,6 +23,7 @@ public final class CreditTest {
         sessionsEndByTime();
         manySessions();
         keptAnswers();
+        keptWithPassed();
         keptByTime();
         keptByNumber();
         wrongOnesAreNotKept();
@@ -389,15 +390,15 @@ public final class CreditTest {
         check.due("kept", node.kept(), 1);
         check.due("one session", node.sessions(), 1);
         account(120, 5000, 1000, 0);
-        // By HOST and END alone, by another PEER too, with its own HOP and PASSED.
+        // By HOST and END alone, by another PEER too; with its own HOP, but PASSED as it was at first.
         Check.feed(node, 2, Wire.message(1, Wire.REQUEST | Wire.PASSED | Wire.AGAIN, Wire.CREDIT, 4, 77, 50,
                 Wire.text(263, "t"), Wire.origin("c.d", "other"), Wire.number(416, 9), Wire.number(415, 8)));
-        check.due("that answer", Check.take(node, 2), Wire.message(1, Wire.PASSED, Wire.CREDIT, 4, 77, 50,
+        check.due("that answer", Check.take(node, 2), Wire.message(1, 0, Wire.CREDIT, 4, 77, 50,
                 Wire.text(263, "s"), Wire.number(268, 2001), Wire.origin("m.home", "home"), Wire.number(258, 4),
                 Wire.number(416, 1), Wire.number(415, 0), Wire.told(1000)));
         check.due("the peer of the session", node.session(0, 2), 1);
         Check.feed(node, 1, first);
-        check.due("not passed again", Check.take(node, 1), answer);
+        check.due("the first hop again", Check.take(node, 1), answer);
         // Another HOST or another END is another one.
         Check.feed(node, 2, Wire.request(Wire.CREDIT, 78, 50, Wire.text(263, "s"), Wire.origin("c.e", "e"),
                 Wire.number(416, 2), Wire.number(415, 1)));
@@ -414,6 +415,26 @@ public final class CreditTest {
         refused("x", 2, 0, 5002);
         refused("x", 1, 0, 4012, who("7"));
         check.due("kept", node.kept(), 8);
+    }
+
+    private static void keptWithPassed() {
+        open();
+        keptWithFlags(Wire.PASSED, 2001, Wire.told(1000), 61, 1);
+        keptWithFlags(0, 5012, new byte[0], 62, 1);
+        keptWithFlags(Wire.PASSED, 5004, new byte[0], 63, 9);
+    }
+
+    /** A CREDIT that comes three times: the flag PASSED of the first one is that of each ANSWER. */
+    private static void keptWithFlags(int first, int result, byte[] told, int end, int type) {
+        for (int i = 0; i < 3; i++) {
+            int flags = i == 1 ? first ^ Wire.PASSED : first;
+            Check.feed(node, 1, Wire.message(1, Wire.REQUEST | flags, Wire.CREDIT, 4, 900 + i, end,
+                    Wire.text(263, "s"), Wire.origin("c.d", "other"), Wire.number(416, type), Wire.number(415, 3),
+                    who("120")));
+            check.due("passed as at first", Check.take(node, 1), Wire.message(1, first, Wire.CREDIT, 4, 900 + i, end,
+                    Wire.text(263, "s"), Wire.number(268, result), Wire.origin("m.home", "home"), Wire.number(258, 4),
+                    Wire.number(416, type), Wire.number(415, 3), told));
+        }
     }
 
     private static void keptByTime() {
