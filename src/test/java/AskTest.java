@@ -245,7 +245,7 @@ public final class AskTest {
             check.due("ask", node.ask(0), i);
         }
         check.due("a 65th", node.ask(0), -4);
-        // 15 asks of 124 octets had room.
+        // 18 asks of 108 octets had room.
         check.due("those without room are lost", node.lost(), 64 - 2000 / ask(0, 1, 1).length);
         asked(63, 0, 1, 1, 64, 64);
         Check.feed(node, 1, Wire.reply(Wire.ASK, 64, 7, "x"));

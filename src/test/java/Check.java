@@ -1,9 +1,33 @@
+import java.io.IOException;
+import java.nio.file.Files;
+import java.nio.file.Path;
 import java.util.Arrays;
 
 /** Counts what a test finds, and speaks with a node in whole messages. */
 final class Check {
+    private static final Path DOCUMENT = Path.of("../shared/DOC.md");
     private int done;
     private int wrong;
+    private String sentence = "";
+    private String document;
+
+    /** What follows is the test of this sentence of the document, or part of one, word for word. */
+    void of(String words) {
+        sentence = "[" + words + "] ";
+        due("stands in the document", document().isEmpty() || document().contains(words) ? 0 : 1, 0);
+    }
+
+    /** The document in one line, or nothing where it is not at hand: the tests need none. */
+    private String document() {
+        if (document == null) {
+            try {
+                document = Files.isReadable(DOCUMENT) ? Files.readString(DOCUMENT).replaceAll("\\s+", " ") : "";
+            } catch (IOException e) {
+                document = "";
+            }
+        }
+        return document;
+    }
 
     void due(String what, long got, long want) {
         done++;
@@ -23,7 +47,7 @@ final class Check {
     private void tell(String text) {
         wrong++;
         if (wrong <= 20) {
-            System.out.println(text);
+            System.out.println(sentence + text);
         }
     }
 
@@ -64,7 +88,7 @@ final class Check {
     }
 
     static void drain(QuotaPeers node, int connection) {
-        while (node.waiting(connection) > 0) {
+        for (int n = node.waiting(connection); n > 0; n--) {
             node.take(connection);
         }
     }
@@ -80,5 +104,36 @@ final class Check {
     static int peer(QuotaPeers node, String name, boolean starts) {
         sign(node, name);
         return node.peer(starts);
+    }
+
+    /** All that can be asked of a node but for its ACCOUNTS, whose numbers it does not tell. */
+    static String show(QuotaPeers x) {
+        StringBuilder all = new StringBuilder();
+        all.append(x.clock()).append(' ').append(x.kept()).append(' ').append(x.lost()).append(' ').append(x.sign(0));
+        for (int c = 1; c <= 8; c++) {
+            all.append("\nc").append(x.waiting(c));
+            for (int what = 0; what <= 3; what++) {
+                all.append(' ').append(x.connection(c, what));
+            }
+        }
+        for (int p = 1; p <= 4; p++) {
+            all.append("\np");
+            for (int what = 0; what <= 7; what++) {
+                all.append(' ').append(x.state(p, what));
+            }
+        }
+        for (int k = 0; k < x.sessions(); k++) {
+            all.append("\ns").append(x.granted(k));
+            for (int what = 0; what <= 3; what++) {
+                all.append(' ').append(x.session(k, what));
+            }
+        }
+        for (int i = 0; x.asked(i, 1) > 0; i++) {
+            all.append("\na");
+            for (int what = 0; what <= 4; what++) {
+                all.append(' ').append(x.asked(i, what));
+            }
+        }
+        return all.toString();
     }
 }

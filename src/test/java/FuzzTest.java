@@ -24,7 +24,7 @@ public final class FuzzTest {
             FuzzTest one = new FuzzTest(seed);
             one.prepare();
             for (int call = 0; call < 150; call++) {
-                String before = show(one.node);
+                String before = Check.show(one.node);
                 String text = one.step();
                 one.mustHold("seed " + seed + " call " + call + " " + text, before);
             }
@@ -231,11 +231,11 @@ public final class FuzzTest {
     }
 
     private void mustHold(String when, String before) {
-        String after = show(node);
+        String after = Check.show(node);
         if (when.contains(" -")) {
             check.due(when + " changed something", after.equals(before) ? 0 : 1, 0);
         }
-        check.due(when + ": the twin differs", after.equals(show(twin)) ? 0 : 1, 0);
+        check.due(when + ": the twin differs", after.equals(Check.show(twin)) ? 0 : 1, 0);
         check.due(when + ": lost", node.lost() >= lastLost ? 0 : 1, 0);
         lastLost = node.lost();
         for (int p = 1; p <= NAMES.length; p++) {
@@ -271,35 +271,5 @@ public final class FuzzTest {
         boolean statuses = open ? status == 1 || status == 2 || status == 4 : status == 0 || status == 3;
         boolean timer = node.state(p, 5) > node.clock() && node.state(p, 5) <= node.clock() + 30;
         return lines && whose && statuses && timer && (open || node.state(p, 4) == 0);
-    }
-
-    private static String show(QuotaPeers x) {
-        StringBuilder all = new StringBuilder();
-        all.append(x.clock()).append(' ').append(x.kept()).append(' ').append(x.lost());
-        for (int c = 1; c <= 8; c++) {
-            all.append("\nc").append(x.waiting(c));
-            for (int what = 0; what <= 3; what++) {
-                all.append(' ').append(x.connection(c, what));
-            }
-        }
-        for (int p = 1; p <= 4; p++) {
-            all.append("\np");
-            for (int what = 0; what <= 7; what++) {
-                all.append(' ').append(x.state(p, what));
-            }
-        }
-        for (int k = 0; k < x.sessions(); k++) {
-            all.append("\ns").append(x.granted(k));
-            for (int what = 0; what <= 3; what++) {
-                all.append(' ').append(x.session(k, what));
-            }
-        }
-        for (int i = 0; x.asked(i, 1) > 0; i++) {
-            all.append("\na");
-            for (int what = 0; what <= 4; what++) {
-                all.append(' ').append(x.asked(i, what));
-            }
-        }
-        return all.toString();
     }
 }
