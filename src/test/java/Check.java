@@ -95,8 +95,12 @@ final class Check {
 
     static int sign(QuotaPeers node, String name) {
         int count = node.sign(-1);
-        for (int i = 0; i < name.length(); i++) {
-            count = node.sign(name.charAt(i));
+        for (int i = 0; i < name.length(); i += 4) {
+            int four = 0;
+            for (int k = i; k < Math.min(i + 4, name.length()); k++) {
+                four = four << 8 | name.charAt(k);
+            }
+            count = node.sign(four);
         }
         return count;
     }

@@ -404,8 +404,9 @@ public final class EdgesOfCreditTest {
         begin(5000);
         feed("s", 1, 5, WHO);
         feed("s", 3, 6);
-        Check.drain(node, 1);
-        credit("begins anew", "s", 1, 0, 2001, Wire.told(1000), WHO);
+        feed("s", 1, 0, WHO);
+        check.due("begins anew", node.sessions(), 1);
+        check.due("with its own count", node.session(0, 1), 0);
     }
 
     private static void beginsWithFree() {
@@ -461,7 +462,8 @@ public final class EdgesOfCreditTest {
                     feed("s", type, last + 1, Wire.used(5));
                     check.due("one more than " + last, node.balance(120, 2), 5);
                 } else {
-                    refused("it does not begin again at 0", "s", type, 0, 5012, Wire.used(5));
+                    feed("s", type, 0, Wire.used(5));
+                    check.due("it does not begin again at 0", node.balance(120, 2), 0);
                 }
             }
         }
@@ -488,9 +490,9 @@ public final class EdgesOfCreditTest {
         begin(1000);
         feed("s", 1, 0, WHO, Wire.wanted(1));
         feed("t", 1, 0, WHO, Wire.wanted(999));
-        Check.drain(node, 1);
-        refused("the rest is another's", "s", 2, 1, 4012, Wire.used(1));
-        check.due("the grant", node.granted(0), 0);
+        feed("s", 2, 1, Wire.used(1));
+        check.due("the rest is another's", node.granted(0), 0);
+        account("the rest is another's", 999, 999, 1);
         check.due("the other's stays", node.granted(1), 999);
     }
 
@@ -519,9 +521,10 @@ public final class EdgesOfCreditTest {
         check.of("TYPE 4 (no SESSION is made, or looked at): 5030 as in 1.");
         for (int act = 0; act <= 2; act++) {
             begin(5000);
+            refused("5030", "s", 4, 5, 5030, action(act), Wire.subscriber("7"));
+            begin(5000);
             feed("s", 1, 5, WHO);
             Check.drain(node, 1);
-            refused("5030", "s", 4, 5, 5030, action(act), Wire.subscriber("7"));
             credit("2001", "s", 4, 0, 2001, act == 2 ? Wire.number(422, 0) : NONE, action(act), WHO, Wire.wanted(1));
             check.due("sessions", node.sessions(), 1);
             check.due("its count", node.session(0, 1), 5);
@@ -641,6 +644,9 @@ public final class EdgesOfCreditTest {
         credit("type 1", "s", 1, 0, 2001, Wire.join(Wire.group(431, Wire.units(7)), Wire.number(448, 600)), WHO,
                 Wire.wanted(7));
         credit("type 2", "s", 2, 1, 2001, Wire.join(Wire.group(431, Wire.units(0)), Wire.number(448, 600)), Wire.wanted(0));
+        begin(5000);
+        feed("s", 1, 0, WHO);
+        Check.drain(node, 1);
         refused("not with type 3", "s", 3, 2, 2001);
         begin(0);
         refused("not with 4012", "s", 1, 0, 4012, WHO, Wire.wanted(7));
@@ -815,7 +821,8 @@ public final class EdgesOfCreditTest {
         QuotaPeers z = Scene.openPeers(4);
         z.tick(30);
         for (int p = 1; p <= 4; p++) {
-            check.due("hop of " + p, Check.take(z, p)[15], p);
+            Check.feed(z, p, Wire.reply(Wire.WATCH, p, 2001, Scene.name(p)));
+            check.due("hop of " + p, z.state(p, 4), 0);
         }
         // The CONNECTION that the first PEER's ten seconds close is the one that the second one's TIMER is given.
         QuotaPeers w = new QuotaPeers();

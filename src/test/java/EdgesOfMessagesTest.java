@@ -20,6 +20,9 @@ public final class EdgesOfMessagesTest {
         firstHost();
         highestFirst();
         headFlags();
+        longestMessages();
+        longestAnswers();
+        longestAsks();
         attributeLengths();
         makers();
         padding();
@@ -177,6 +180,91 @@ public final class EdgesOfMessagesTest {
         answered("again", Wire.message(1, 144, Wire.WATCH, 0, 5, 6, ORIGIN), Wire.answer(0, Wire.WATCH, 5, 6, 2001, done));
         answered("both", Wire.message(1, 208, Wire.WATCH, 0, 5, 6, ORIGIN), Wire.answer(64, Wire.WATCH, 5, 6, 2001, done));
         answered("an answer is not answered", Wire.message(1, 0, Wire.WATCH, 0, 5, 6, ORIGIN), NONE);
+    }
+
+    /** A CREDIT of TYPE 1 with just 600 octets, the last of which are those of its last part. */
+    private static byte[] longest(byte[]... parts) {
+        byte[] all = Wire.join(parts);
+        byte[] filled = Wire.request(Wire.CREDIT, 5, 6, Wire.attribute(9999, 0, new byte[600 - 28 - all.length]), all);
+        check.due("octets", filled.length, 600);
+        return filled;
+    }
+
+    private static void longestMessages() {
+        check.of("its LENGTH, 3 octets, of all of it");
+        byte[] session = Wire.text(263, "s");
+        byte[] host = Wire.text(264, "c.d");
+        byte[] realm = Wire.text(296, "e");
+        byte[] type = Wire.number(416, 1);
+        byte[] count = Wire.number(415, 0x7A7B7C7D);
+        byte[] who = Wire.subscriber("120");
+        QuotaPeers x = Scene.withAccount(5000);
+        Check.feed(x, 1, longest(who, session, host, realm, type, count));
+        check.due("a number in the last octets", x.session(0, 1), 0x7A7B7C7D);
+        x = Scene.withAccount(5000);
+        Check.feed(x, 1, longest(session, host, realm, type, count, who));
+        check.due("a group in the last octets", x.granted(0), 1000);
+        x = Scene.withAccount(5000);
+        Check.feed(x, 1, longest(session, host, realm, type, count, who, Wire.wanted(0x0807)));
+        check.due("units in the last octets", x.granted(0), 0x0807);
+        x = Scene.withAccount(5000);
+        Check.feed(x, 1, longest(who, host, realm, type, count, Wire.text(263, "abcd")));
+        Check.drain(x, 1);
+        x.ask(0);
+        check.due("a text in the last octets", Check.take(x, 1), Wire.message(1, 192, Wire.ASK, 4, 1, 1,
+                Wire.text(263, "abcd"), Wire.origin("m.home", "home"), Wire.text(283, "e"), Wire.text(293, "c.d"),
+                Wire.number(258, 4), Wire.number(285, 0)));
+        answered("a head in the last octets", longest(session, host, realm, type, count, unknown(64, 0)),
+                wrongAnswer(Wire.CREDIT, true, 5001, 9999));
+        answered("fewer than 8 in the last octets", longest(session, host, realm, type, count, new byte[4]),
+                wrongAnswer(Wire.CREDIT, true, 5014, 0));
+        answered("one that goes beyond them", longest(session, host, realm, type, count,
+                Wire.attribute(278, 64, 13, new byte[4], 0)), wrongAnswer(Wire.CREDIT, true, 5014, 278));
+        answered("the shortest", Wire.request(Wire.CREDIT, 5, 6), wrongAnswer(Wire.CREDIT, false, 5005, 263));
+    }
+
+    private static void longestAnswers() {
+        check.of("then ATTRIBUTES with MUST, PADDING of 0, in this order");
+        int[] lengths = {1, 2, 3, 4, 37, 38, 39, 40};
+        for (int length : lengths) {
+            String name = "n".repeat(length);
+            QuotaPeers x = new QuotaPeers();
+            Check.sign(x, name);
+            x.own();
+            Check.peer(x, "a", false);
+            Check.drain(x, Scene.come(x, "a"));
+            x.account(120, 1L << 60);
+            Check.feed(x, 1, Wire.request(Wire.CREDIT, 5, 6, Wire.text(263, name), Wire.origin(name, name),
+                    Wire.number(416, 1), Wire.number(415, 4294967295L), Wire.subscriber("120"), Wire.wanted(1L << 60)));
+            check.due("an answer to a credit", Check.take(x, 1), Wire.message(1, 0, Wire.CREDIT, 4, 5, 6,
+                    Wire.text(263, name), Wire.number(268, 2001), Wire.origin(name, "home"), Wire.number(258, 4),
+                    Wire.number(416, 1), Wire.number(415, 4294967295L), Wire.told(1L << 60)));
+        }
+    }
+
+    private static void longestAsks() {
+        check.of("ASKS: REQUEST, PASSED (and AGAIN when sent again), COMMAND 258, APPLICATION 4:"
+                + " SESSION, HOST, REALM, TO-REALM, TO-HOST, AUTH 4, KIND 0.");
+        int[] lengths = {1, 2, 3, 4, 37, 38, 39, 40};
+        for (int length : lengths) {
+            String name = "n".repeat(length);
+            QuotaPeers x = new QuotaPeers();
+            Check.sign(x, name);
+            x.own();
+            Check.peer(x, "a", false);
+            Check.peer(x, "b", false);
+            Check.drain(x, Scene.come(x, "a"));
+            Scene.come(x, "b");
+            x.account(120, 5000);
+            Check.feed(x, 2, Wire.request(Wire.CREDIT, 5, 6, Wire.text(263, name), Wire.origin(name, name),
+                    Wire.number(416, 1), Wire.number(415, 0), Wire.subscriber("120")));
+            check.due("asked", x.ask(0), 0);
+            check.due("by the second", x.asked(0, 1), 2);
+            x.gone(2);
+            check.due("sent again", Check.take(x, 1), Wire.message(1, 208, Wire.ASK, 4, 2, 1, Wire.text(263, name),
+                    Wire.origin(name, "home"), Wire.text(283, name), Wire.text(293, name), Wire.number(258, 4),
+                    Wire.number(285, 0)));
+        }
     }
 
     private static void attributeLengths() {
@@ -523,7 +611,7 @@ public final class EdgesOfMessagesTest {
                 byte[] inner = Arrays.copyOf(Wire.group(437, cut), 8 + there);
                 right("twice", Wire.group(443, inner), Wire.number(278, 1));
             }
-            watch("data that lack", Wire.group(443, Arrays.copyOf(text, 7 + size)), 5014, size == 1 ? 444 : 444);
+            watch("data that lack", Wire.group(443, Arrays.copyOf(text, 7 + size)), 5014, 444);
         }
     }
 
