@@ -156,12 +156,16 @@ public final class EdgesOfCreditTest {
                 // The PEER goes and comes: what is KEPT is not its own.
                 node.gone(1);
                 node.tick(begun + second);
-                check.due("kept at " + second, node.kept(), second < 240 ? 1 : 0);
                 Check.peer(node, "b", false);
                 Check.drain(node, Scene.come(node, "b"));
                 Check.feed(node, 1, charge(50, 10));
                 check.due("charged at " + second, node.balance(120, 2), second < 240 ? 10 : 20);
                 check.due("kept now", node.kept(), 1);
+                begin(5000);
+                node.tick(begun);
+                Check.feed(node, 1, charge(50, 10));
+                node.tick(begun + second);
+                check.due("kept at " + second, node.kept(), second < 240 ? 1 : 0);
             }
         }
         // Given again it is KEPT no longer.
@@ -292,7 +296,7 @@ public final class EdgesOfCreditTest {
             refused("not in another group", "s", 2, 1, 5002, Wire.group(443, Wire.group(group, Wire.units(-1))));
             begin(5000);
             refused("not in granted", "s", 2, 1, 5002, Wire.group(431, Wire.units(-1)));
-            refused("not in the message itself", "s", 2, 1, 5002, Wire.units(-1));
+            refused("not in the message itself", "s", 2, 1, 5002, Wire.group(group), Wire.units(-1));
         }
     }
 
@@ -345,8 +349,9 @@ public final class EdgesOfCreditTest {
 
     private static void digits() {
         check.of("that is 1 to 17 digits (perhaps 0s before) and the number of an ACCOUNT");
+        // As digits of 10 and -10 the signs in "11:" and "13&" would tell 120.
         String[] wrong = {"0", "1", "12", "121", "1200", "000000000000000120", "0".repeat(37) + "120", "120 ", " 120",
-                "12/", "12:", "/120", ":120", "+120", "-120", "1.2", "12a", "a", "\u0000", "120\u0000", "\u0131\u0132",
+                "12/", "12:", "/120", ":120", "11:", "13&", "+120", "-120", "1.2", "12a", "a", "\u0000", "120\u0000", "\u0131\u0132",
                 "99999999999999998", "999999999999999999", "099999999999999999", "00000000000000000"};
         for (String who : wrong) {
             begin(5000);
@@ -622,7 +627,8 @@ public final class EdgesOfCreditTest {
 
     private static void usualGrants() {
         check.of("(1000 if it is not there, or has no UNITS)");
-        byte[][] without = {NONE, Wire.group(437), Wire.group(437, Wire.number(448, 9)), Wire.used(9)};
+        byte[][] without = {NONE, Wire.group(437), Wire.group(437, Wire.number(448, 9)), Wire.used(9),
+                Wire.join(Wire.group(437), Wire.units(9))};
         long[] balances = {1, 999, 1000, 1001, 5000};
         for (byte[] one : without) {
             for (long balance : balances) {

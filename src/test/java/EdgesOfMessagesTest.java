@@ -900,6 +900,11 @@ public final class EdgesOfMessagesTest {
         answered("none gone through, 3008", Wire.message(1, 129, credit, 4, 5, 6, session), plain(32, credit, 4, 3008));
         answered("not of a watch", Wire.request(Wire.WATCH, 5, 6, session, ORIGIN), rightAnswer(Wire.WATCH));
         answered("one that lacks behind it", Wire.request(credit, 5, 6, session), wrongAnswer(credit, true, 5005, 264));
+        QuotaPeers x = Scene.open();
+        Check.feed(x, 1, Wire.request(credit, 5, 6, session));
+        Check.drain(x, 1);
+        Check.feed(x, 1, Wire.request(credit, 5, 6));
+        check.due("not that of the message before", Check.take(x, 1), wrongAnswer(credit, false, 5005, 263));
     }
 
     private static void whatAnswersTell() {

@@ -15,6 +15,7 @@ public final class EdgesOfPeersTest {
         askingAndCame();
         both();
         bothRefused();
+        answeredLater();
         choosing();
         choosingAnswered();
         choosingCameGone();
@@ -200,6 +201,21 @@ public final class EdgesOfPeersTest {
         }
     }
 
+    private static void answeredLater() {
+        check.of("A CAME one (not answered yet): 3.");
+        int[] flags = {0, 16, 64, 80};
+        for (int flag : flags) {
+            QuotaPeers x = Scene.in(1, LATE);
+            x.accept();
+            Check.feed(x, 2, Wire.message(1, 128 | flag, Wire.OPENING, 0, 4294967295L, 2147483648L, Wire.origin(LATE, "r"),
+                    Wire.number(258, 4)));
+            check.due("not yet", x.waiting(2), 0);
+            x.gone(1);
+            check.due("as if it came now", Check.take(x, 2), Wire.answer(flag & 64, Wire.OPENING, 4294967295L, 2147483648L,
+                    2001, Wire.introduction()));
+        }
+    }
+
     private static void choosing() {
         check.of("4: the OWN one is gone: the CAME one is answered with 2001: 5.");
         QuotaPeers x = Scene.in(4, LATE);
@@ -326,6 +342,13 @@ public final class EdgesOfPeersTest {
         check.due("given over once", z.state(1, 6), 1);
         z.gone(1);
         check.due("and not again", z.state(1, 6), 1);
+        // Nor is one that the node sent a time before the one that is waited for.
+        QuotaPeers w = Scene.in(7, LATE);
+        w.gone(1);
+        Scene.come(w, LATE);
+        Check.feed(w, 1, Wire.ending(LATE, 9));
+        Check.feed(w, 1, Wire.reply(Wire.ENDING, 1, 2001, LATE));
+        check.due("an ending of a time before", w.state(1, 0), 7);
     }
 
     private static void endingPassesOver() {

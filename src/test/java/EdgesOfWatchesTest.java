@@ -246,6 +246,7 @@ public final class EdgesOfWatchesTest {
         status(x, "the timer was not set at the third", GOOD, 1, 125);
         Check.feed(x, 1, Wire.reply(Wire.WATCH, 4, 2001, EARLY));
         check.due("no fourth", x.state(1, 7), 3);
+        check.due("only those that came again are lost", x.lost(), 2);
     }
 
     private static void anyOther() {
