@@ -1848,7 +1848,7 @@ public final class QuotaPeers {
         int endDue(int now) {
             int ended = 0;
             int k = 0;
-            for (int n = sessions.size(); n > 0; n--) {
+            for (int n = sessions.size(); n > 0 && k < sessions.size(); n--) {
                 Session session = sessions.get(k);
                 if (session.ends <= now) {
                     session.release();
